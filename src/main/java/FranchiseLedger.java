@@ -598,21 +598,6 @@ public final class FranchiseLedger {
             leastWorth = 0;
         }
 
-        void copyFrom(Terms other) {
-            System.arraycopy(other.advertising, 0, advertising, 0, MAX_PLANS);
-            System.arraycopy(other.stepCounts, 0, stepCounts, 0, MAX_PLANS);
-            System.arraycopy(other.thresholds, 0, thresholds, 0, MAX_PLANS * STEPS);
-            System.arraycopy(other.rates, 0, rates, 0, MAX_PLANS * STEPS);
-            planCount = other.planCount;
-            creditRate = other.creditRate;
-            creditCap = other.creditCap;
-            interestRate = other.interestRate;
-            adminRate = other.adminRate;
-            fee = other.fee;
-            delay = other.delay;
-            leastWorth = other.leastWorth;
-        }
-
         void addPlan(int advertisingRate, int baseRate) {
             if (planCount >= MAX_PLANS) {
                 return;
@@ -942,15 +927,12 @@ public final class FranchiseLedger {
         int count;
 
         void copyFrom(Franchisees other) {
-            System.arraycopy(other.letters, 0, letters, 0, MAX_FRANCHISEES * MAX_LETTERS);
-            System.arraycopy(other.nameLengths, 0, nameLengths, 0, MAX_FRANCHISEES);
             System.arraycopy(other.plans, 0, plans, 0, MAX_FRANCHISEES);
             System.arraycopy(other.worths, 0, worths, 0, MAX_FRANCHISEES);
             System.arraycopy(other.statuses, 0, statuses, 0, MAX_FRANCHISEES);
             System.arraycopy(other.generations, 0, generations, 0, MAX_FRANCHISEES);
             System.arraycopy(other.overdue, 0, overdue, 0, MAX_FRANCHISEES);
             System.arraycopy(other.balances, 0, balances, 0, MAX_FRANCHISEES);
-            count = other.count;
         }
 
         boolean has(int franchisee) {
@@ -1236,7 +1218,7 @@ public final class FranchiseLedger {
         }
     }
 
-    /** All that a snapshot keeps, and what concerns several parts of it. */
+    /** A franchise system as a load makes it and calls change it, and what concerns several parts of it. */
     private static final class Business {
         final Terms terms = new Terms();
         final Grid grid = new Grid();
@@ -1256,8 +1238,8 @@ public final class FranchiseLedger {
             books.clear();
         }
 
+        /** Copies what can change between two loads; a load ends the snapshots, so the rest is always the same. */
         void copyFrom(Business other) {
-            terms.copyFrom(other.terms);
             grid.copyFrom(other.grid);
             outlets.copyFrom(other.outlets);
             franchisees.copyFrom(other.franchisees);

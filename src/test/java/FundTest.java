@@ -41,6 +41,8 @@ public final class FundTest {
         Check.due("admin: 0.875", 164, x.spent(ADMIN));
         Check.due("the fund then", 1308 - 164, x.fundBalance());
         Check.due("nothing else was spent", 0, x.spent(NATIONAL) + x.spent(LOCAL));
+        Check.due("admin: 0.4", 0, contributed(SYSTEM + "admin 2000;", 1, 1).spent(ADMIN));
+        Check.due("admin: 0.6", 1, contributed(SYSTEM + "admin 2000;", 1, 1, 1).spent(ADMIN));
     }
 
     private static void campaigns() {

@@ -115,37 +115,101 @@ public final class InputTest {
         Check.due("the last fee counts", 200, x.balance(0));
     }
 
+    /** The second of the new systems is made where the used one was before. */
     private static void whatALoadReplaces() {
-        FranchiseLedger x = Check.ledger("plan 100 1000;franchisee a 0 5;area a 0 0 3 3;outlet a 0 0;"
-                + "credit 5000 9999;interest 500;admin 2000;fee 9999;delay 12;worth 999;");
-        x.reportSales(0, 100000);
-        x.closeMonth();
+        FranchiseLedger x = usedLedger();
+        for (int load = 0; load < 2; load++) {
+            Check.due("a text without errors", 10, Check.load(x, "plan 100 1000;franchisee a 0 7;franchisee b 0 7;"
+                    + "franchisee c 0 7;area a 0 0 1 1;area b 1 0 2 1;area c 2 0 3 1;outlet a 0 0;outlet b 1 0;"
+                    + "outlet c 2 0;"));
+            dueFreshLedger(x);
+            dueNoTerms(x);
+        }
+        Check.load(x, ONE);
+        Check.due("fewer franchisees", 1, x.count(1));
+        Check.due("no outlets", 0, x.count(2));
+        Check.due("no cells", 0, x.area(0));
+        Check.due("cells of none", NONE, x.owner(0, 0));
+        String credit = "plan 0 0;franchisee a 0 0;franchisee b 0 0;area a 0 0 1 1;area b 1 0 2 1;outlet a 0 0;credit 5000 9;";
+        Check.load(x, credit);
+        x.deliver(0, 1, 0, 1000);
+        Check.due("a credit", 500, x.creditDue(0, 1));
+        Check.load(x, credit);
+        Check.load(x, credit);
+        Check.due("no deliveries", 0, x.creditDue(0, 1));
+    }
+
+    private static FranchiseLedger usedLedger() {
+        FranchiseLedger x = Check.ledger("plan 100 1000 1 3000 5 2000;franchisee a 0 5;franchisee b 0 5;franchisee c 0 5;"
+                + "area a 0 0 3 3;area b 3 0 6 3;area c 6 0 9 3;outlet a 0 0;outlet b 3 0;outlet c 6 0;"
+                + "credit 5000 9999;interest 500;admin 2000;fee 9999;delay 1;worth 500;");
+        x.requestTransfer(0, 999, 0);
+        for (int member = 0; member < 3; member++) {
+            x.vote(0, member, true);
+        }
+        for (int outlet = 0; outlet < 3; outlet++) {
+            x.reportSales(outlet, 100000);
+        }
+        for (int i = 0; i < 5; i++) {
+            x.closeMonth();
+        }
         x.campaign(1);
         x.grant(0, 1);
-        x.reportSales(0, 700);
-        x.pay(0, 1000000);
+        x.pay(0, 1000000000);
         x.requestTransfer(0, 999, 0);
+        x.terminate(1);
+        x.pay(2, 1000000000);
+        x.requestTransfer(2, 999, 0);
+        x.exercise(2);
+        x.openOutlet(0, 1, 0);
+        x.reportSales(0, 700);
         x.saveSnapshot(0);
         x.saveSnapshot(1);
         Check.loadJournal(x, "close;close;");
-        Check.due("a text without errors", 4, Check.load(x, "plan 0 0;franchisee a 0 7;area a 0 0 1 1;outlet a 0 0;"));
+        Check.due("generation before", 1, x.generation(0));
+        Check.due("status before", FranchiseLedger.TERMINATED, x.status(1));
+        Check.due("status before", FranchiseLedger.COMPANY, x.status(2));
+        return x;
+    }
+
+    private static void dueFreshLedger(FranchiseLedger x) {
         Check.due("empty journal", 0, x.count(3));
         Check.due("present month 0", 0, x.month());
-        Check.due("no sales", 0, x.sales(0));
         Check.due("an empty fund", 0, x.fundBalance());
-        Check.due("no contributions", 0, x.contributions(0));
-        Check.due("no grants", 0, x.allowance(0));
-        for (int kind = 0; kind < 3; kind++) {
-            Check.due("no spending", 0, x.spent(kind));
-        }
-        Check.due("no transfer", FranchiseLedger.NO_TRANSFER, x.transferState(0));
-        Check.due("no balance", 0, x.balance(0));
-        Check.due("new cells", 1, x.area(0));
-        Check.due("new worth", 7, x.worth(0));
+        Check.due("nothing owed", 0, x.totalOwed());
         Check.due("no snapshot 0", false, x.restoreSnapshot(0));
         Check.due("no snapshot 1", false, x.restoreSnapshot(1));
+        for (int i = 0; i < 3; i++) {
+            Check.due("no spending", 0, x.spent(i));
+            Check.due("no sales", 0, x.sales(i));
+            Check.due("new outlets", i, x.outletOwner(i));
+            Check.due("new cells", 1, x.area(i));
+            Check.due("new worth", 7, x.worth(i));
+            Check.due("no balance", 0, x.balance(i));
+            Check.due("no contributions", 0, x.contributions(i));
+            Check.due("no grants", 0, x.allowance(i));
+            Check.due("no transfer", FranchiseLedger.NO_TRANSFER, x.transferState(i));
+            Check.due("active", FranchiseLedger.ACTIVE, x.status(i));
+            Check.due("no generation", 0, x.generation(i));
+            Check.due("not overdue", 0, x.monthsOverdue(i));
+            Check.due("no sales before", i, x.ranked(i));
+        }
+    }
+
+    private static void dueNoTerms(FranchiseLedger x) {
+        Check.due("no tiers", 100000, x.royalty(0, 1000000));
         Check.due("no least worth", true, x.requestTransfer(0, 0, 0));
         Check.due("no delay", 0, x.transferWait(0));
+        for (int member = 0; member < 3; member++) {
+            x.vote(0, member, true);
+        }
+        x.deliver(1, 0, 0, 1000);
+        Check.due("no credit", 0, x.creditDue(1, 0));
+        x.closeMonth();
+        Check.due("no fee", 0, x.balance(0));
+        Check.due("no admin rate", 0, x.spent(FranchiseLedger.ADMIN));
+        x.closeMonth();
+        Check.due("no interest", 110, x.balance(1));
     }
 
     private static void whatAFailedLoadKeeps() {
@@ -280,6 +344,9 @@ public final class InputTest {
 
     private static void tokenErrors() {
         Check.dueLoadError("sell", 1, 0);
+        for (String word : new String[] {"xlan", "plax", "plxn", "pla", "plann"}) {
+            Check.dueLoadError(word + " 0 0;", 1, 0);
+        }
         Check.dueLoadError(";", 1, 0);
         Check.dueLoadError("5;", 1, 0);
         Check.dueLoadError("  Plan 0 0;", 1, 2);

@@ -35,6 +35,9 @@ public final class JournalTest {
     private static void readingErrors() {
         FranchiseLedger x = Check.ledger(SYSTEM);
         Check.dueJournalError(x, "sell 0 0;", 1, 0);
+        Check.dueJournalError(x, "xales 0 0;", 1, 0);
+        Check.dueJournalError(x, "salex 0 0;", 1, 0);
+        Check.dueJournalError(x, "vote ann 0 xes;", 1, 11);
         Check.dueJournalError(x, "plan 0 0;", 1, 0);
         Check.dueJournalError(x, ";", 1, 0);
         Check.dueJournalError(x, "close;;", 1, 6);

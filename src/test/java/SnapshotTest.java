@@ -6,6 +6,7 @@ public final class SnapshotTest {
     public static void main(String[] args) {
         slots();
         whatIsRestored();
+        twoCourses();
         whatIsNotRestored();
         snapshotsOfANewObject();
         Check.end();
@@ -66,6 +67,55 @@ public final class SnapshotTest {
         Check.due("with the delivery", 500, x.invoice(0, 1, 3));
     }
 
+    /** Two courses from one state, in which the same rows are filled differently. */
+    private static void twoCourses() {
+        FranchiseLedger x = Check.ledger(SYSTEM);
+        x.saveSnapshot(0);
+        course(x, 0, 0, 33, 70);
+        String first = sights(x);
+        x.saveSnapshot(1);
+        x.restoreSnapshot(0);
+        Check.due("months that are closed no longer do not count", 0, x.ranked(0));
+        course(x, 1, 3, 44, 90);
+        Check.due("another course", false, first.equals(sights(x)));
+        x.restoreSnapshot(1);
+        Check.due("the first course", first, sights(x));
+        Check.due("its transfer", true, x.exercise(0));
+        Check.due("its price", -70, x.balance(0));
+        x.restoreSnapshot(1);
+        for (int member = 1; member < 3; member++) {
+            x.vote(0, member, true);
+        }
+        Check.due("its votes", FranchiseLedger.APPROVED, x.transferState(0));
+        x.closeMonth();
+        x.closeMonth();
+        Check.due("its wait", 1, x.transferWait(0));
+        x.closeMonth();
+        x.closeMonth();
+        Check.due("its generation", 1, x.generation(0));
+        Check.due("its buyer", 33, x.worth(0));
+        x.restoreSnapshot(0);
+        Check.due("the generation of the beginning", 0, x.generation(0));
+        Check.due("the worth of the beginning", 50, x.worth(0));
+        Check.due("the transfer of the beginning", FranchiseLedger.NO_TRANSFER, x.transferState(0));
+    }
+
+    private static void course(FranchiseLedger x, int cell, int months, int worth, int price) {
+        x.openOutlet(0, cell, cell + 1);
+        x.reportSales(1, 1000 + 500 * months);
+        for (int i = 0; i <= months; i++) {
+            x.closeMonth();
+        }
+        x.requestTransfer(0, worth, price);
+        x.vote(0, 0, cell == 0);
+        x.vote(0, 1 + cell, cell == 0 && months > 0);
+        if (cell == 0) {
+            x.withdraw(0);
+            x.requestTransfer(0, worth, price);
+            x.vote(0, 0, true);
+        }
+    }
+
     private static void change(FranchiseLedger x) {
         x.setPlan(0, 1);
         x.cede(1, 0, 4, 0, 5, 4);
@@ -73,7 +123,7 @@ public final class SnapshotTest {
         x.reportSales(1, 40000);
         x.deliver(0, 6, 0, 700);
         x.deliver(1, 0, 0, 700);
-        x.vote(1, 2, false);
+        x.withdraw(1);
         x.closeMonth();
         x.closeMonth();
         x.closeMonth();

@@ -14,6 +14,7 @@ public final class TerritoryTest {
         connections();
         distances();
         ceding();
+        cedingBesideAnOutlet();
         cedingRefused();
         cedingToAnEmptyTerritory();
         outlets();
@@ -74,6 +75,10 @@ public final class TerritoryTest {
                 + "area b 0 0 3 1;area b 0 1 1 3;area b 2 1 3 3;area b 1 2 2 3;");
         Check.due("a cell in a ring", 4, inside.border(0, 1));
         Check.due("a ring round a cell", 4, inside.border(1, 0));
+        FranchiseLedger first = Check.ledger("plan 0 0;franchisee a 0 0;franchisee b 0 0;area a 0 0 1 1;area b 1 0 2 1;");
+        Check.due("the first cell", 1, first.border(0, 1));
+        Check.due("is connected alone", true, first.isConnected(0));
+        Check.due("and has a distance", 58, first.distance(0, 29, 29));
     }
 
     private static void connections() {
@@ -110,6 +115,29 @@ public final class TerritoryTest {
         Check.due("area of b then", 12, x.area(1));
         Check.due("no such cells", 0, x.cede(0, 1, 20, 20, 21, 21));
         Check.due("no cells of that one", 0, x.cede(0, 2, 4, 1, 6, 4));
+    }
+
+    /** Each rectangle ends or begins beside the outlet in the middle. */
+    private static void cedingBesideAnOutlet() {
+        String system = "plan 0 0;franchisee a 0 0;franchisee b 0 0;area a 0 0 5 5;area b 5 0 6 5;area b 0 5 6 6;outlet a 2 2;"
+                + "outlet b 5 2;";
+        int[][] beside = {{3, 0, 5, 5}, {0, 3, 5, 5}, {3, 0, 6, 6}};
+        for (int[] r : beside) {
+            Check.due("beside the outlet", 10, Check.ledger(system).cede(0, 1, r[0], r[1], r[2], r[3]));
+        }
+        int[][] with = {{2, 0, 5, 5}, {0, 2, 5, 5}, {2, 2, 5, 5}};
+        for (int[] r : with) {
+            Check.due("with the outlet", NOT_ALLOWED, Check.ledger(system).cede(0, 1, r[0], r[1], r[2], r[3]));
+        }
+        FranchiseLedger x = Check.ledger("plan 0 0;franchisee a 0 0;franchisee b 0 0;area a 0 0 9 1;area b 0 1 9 2;"
+                + "outlet a 4 0;outlet b 4 1;");
+        Check.due("left of it", 4, x.cede(0, 1, 0, 0, 4, 1));
+        Check.due("right of it", 4, x.cede(0, 1, 5, 0, 9, 2));
+        Check.due("the outlet's cell alone", NOT_ALLOWED, x.cede(0, 1, 4, 0, 5, 1));
+        FranchiseLedger column = Check.ledger("plan 0 0;franchisee a 0 0;franchisee b 0 0;area a 0 0 1 9;area b 1 0 2 9;"
+                + "outlet a 0 4;outlet b 1 4;");
+        Check.due("above it", 4, column.cede(0, 1, 0, 0, 1, 4));
+        Check.due("below it", 4, column.cede(0, 1, 0, 5, 2, 9));
     }
 
     private static void cedingRefused() {
