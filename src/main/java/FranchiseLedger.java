@@ -65,7 +65,6 @@ public final class FranchiseLedger {
     private static final int CONFLICT_ERROR = 5;
 
     private final Tokens input;
-    private final SystemReader reader;
     private final InvoiceText formatted;
     private final Grid trial;
     private final Business[] snapshots;
@@ -79,7 +78,6 @@ public final class FranchiseLedger {
 
     public FranchiseLedger() {
         input = new Tokens();
-        reader = new SystemReader(input);
         formatted = new InvoiceText();
         trial = new Grid();
         snapshots = new Business[] {new Business(), new Business()};
@@ -115,7 +113,7 @@ public final class FranchiseLedger {
 
     public int load() {
         draft.clear();
-        int statements = reader.readInto(draft);
+        int statements = SystemReader.read(input, draft);
         finishReading();
         if (lastError != NO_ERROR) {
             return TEXT_ERROR;
@@ -1744,14 +1742,8 @@ public final class FranchiseLedger {
 
     /** Reads the text of a system. */
     private static final class SystemReader {
-        private final Tokens text;
-
-        SystemReader(Tokens text) {
-            this.text = text;
-        }
-
         /** Fills a cleared business and returns the number of statements; what it holds after an error is free. */
-        int readInto(Business business) {
+        static int read(Tokens text, Business business) {
             text.begin();
             int statements = 0;
             // Every statement has a byte at least, so the text ends before the counter does.
@@ -1760,28 +1752,28 @@ public final class FranchiseLedger {
                 if (text.kind == Tokens.END) {
                     return statements;
                 }
-                readStatement(business);
+                readStatement(text, business);
                 statements++;
             }
             return statements;
         }
 
-        private void readStatement(Business business) {
+        private static void readStatement(Tokens text, Business business) {
             if (text.isWord("plan")) {
-                readPlan(business.terms);
+                readPlan(text, business.terms);
             } else if (text.isWord("franchisee")) {
-                readFranchisee(business);
+                readFranchisee(text, business);
             } else if (text.isWord("area")) {
-                readArea(business);
+                readArea(text, business);
             } else if (text.isWord("outlet")) {
-                readOutlet(business);
+                readOutlet(text, business);
             } else {
-                readTerm(business.terms);
+                readTerm(text, business.terms);
             }
             text.endStatement();
         }
 
-        private void readTerm(Terms terms) {
+        private static void readTerm(Tokens text, Terms terms) {
             if (text.isWord("credit")) {
                 terms.creditRate = text.readNumber(0, 5000);
                 terms.creditCap = text.readNumber(0, 9999) * CENTS;
@@ -1800,7 +1792,7 @@ public final class FranchiseLedger {
             }
         }
 
-        private void readPlan(Terms terms) {
+        private static void readPlan(Tokens text, Terms terms) {
             if (terms.planCount >= MAX_PLANS) {
                 text.fail(LIMIT_ERROR);
                 return;
@@ -1818,7 +1810,7 @@ public final class FranchiseLedger {
             }
         }
 
-        private void readFranchisee(Business business) {
+        private static void readFranchisee(Tokens text, Business business) {
             if (business.franchisees.count >= MAX_FRANCHISEES) {
                 text.fail(LIMIT_ERROR);
                 return;
@@ -1833,7 +1825,7 @@ public final class FranchiseLedger {
             }
         }
 
-        private void readArea(Business business) {
+        private static void readArea(Tokens text, Business business) {
             int franchisee = text.readName(business.franchisees, true);
             int x1 = text.readNumber(0, SIDE - 1);
             int y1 = text.readNumber(0, SIDE - 1);
@@ -1845,7 +1837,7 @@ public final class FranchiseLedger {
             business.grid.move(NONE, franchisee, x1, y1, x2, y2);
         }
 
-        private void readOutlet(Business business) {
+        private static void readOutlet(Tokens text, Business business) {
             if (business.outlets.count >= MAX_OUTLETS) {
                 text.fail(LIMIT_ERROR);
                 return;
