@@ -8,8 +8,16 @@ final class Check {
     static final String ISE = "throws.IllegalStateException";
 
     private static int wrong = 0;
+    private static String place = "";
 
     private Check() {
+    }
+
+    /** Runs a test whose reports begin with its place in the document. */
+    static void within(String where, Runnable test) {
+        place = where + ": ";
+        test.run();
+        place = "";
     }
 
     static void due(String what, long want, long got) {
@@ -113,7 +121,7 @@ final class Check {
 
     static void report(String what, String want, String got) {
         wrong++;
-        System.out.println(what + ": due is " + want + ", answered " + got);
+        System.out.println(place + what + ": due is " + want + ", answered " + got);
     }
 
     static void end() {
