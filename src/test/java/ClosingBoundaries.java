@@ -63,6 +63,26 @@ final class ClosingBoundaries {
         Check.due("when all are closed", 60, x.month());
         Check.dueThrow("there is no 61st month", Check.ISE, x::closeMonth);
         Check.due("the present month stays", 60, x.month());
+        monthsOfAll();
+    }
+
+    /** As many months of as many franchisees as there can be, each of which is recorded on its own. */
+    private static void monthsOfAll() {
+        FranchiseLedger x = Check.ledger(Ledgers.eightText());
+        for (int month = 0; month < 60; month++) {
+            for (int f = 0; f < 8; f++) {
+                x.reportSales(f, 1000 * f + month);
+            }
+            Check.due("closing", month + 1, x.closeMonth());
+        }
+        for (int month = 0; month < 60; month++) {
+            for (int f = 0; f < 8; f++) {
+                Check.due("sales of " + f + " in month " + month, 1000 * f + month, x.salesOf(f, month));
+                Check.due("balance of " + f + " in month " + month, x.invoice(f, month, 6),
+                        (month == 0 ? 0 : x.invoice(f, month - 1, 6)) + x.invoice(f, month, 5));
+            }
+        }
+        Check.due("the last balance of the last one", x.balance(7), x.invoice(7, 59, 6));
     }
 
     private static void salesOfAMonth() {
@@ -284,6 +304,22 @@ final class ClosingBoundaries {
         Check.due("the month", 1, x.month());
         x.pay(0, 5);
         Check.due("an invoice stays as it was", 443, x.invoice(0, 0, 6));
+        forgottenDeliveries();
+    }
+
+    /** At this rate a single cent that was not forgotten would show, and so would one that was forgotten too much. */
+    private static void forgottenDeliveries() {
+        FranchiseLedger x = Check.ledger(SYSTEM + "credit 5000 9999;");
+        x.deliver(0, 2, 0, 1000);
+        x.deliver(1, 4, 0, 1000);
+        x.closeMonth();
+        for (int from = 0; from < 3; from++) {
+            for (int to = 0; to < 3; to++) {
+                Check.due("nothing of " + from + " and " + to, 0, x.creditDue(from, to));
+            }
+        }
+        x.deliver(0, 2, 0, 1);
+        Check.due("half of a cent", 1, x.creditDue(0, 1));
     }
 
     private static void fund() {

@@ -201,6 +201,8 @@ final class EntityBoundaries {
         Check.due("a gap", false, withCells("3 3", "5 3").isConnected(0));
         Check.due("the end of a row and the start of the next one", false, withCells("29 3", "0 4").isConnected(0));
         Check.due("a corner that is passed by", true, withCells("3 3", "4 4", "4 3").isConnected(0));
+        Check.due("a way to the left", true, withCells("1 0", "1 1", "0 1").isConnected(0));
+        Check.due("a way upwards", true, withCells("0 0", "0 1", "1 1", "2 1", "2 0").isConnected(0));
         Check.due("a cell of another between", false, Check.ledger("plan 0 0;franchisee a 0 0;franchisee b 0 0;"
                 + cellOf("a", 0, 0) + cellOf("b", 1, 0) + cellOf("a", 2, 0)).isConnected(0));
         Check.due("the whole grid", true, Check.ledger("plan 0 0;franchisee a 0 0;area a 0 0 30 30;").isConnected(0));

@@ -1,3 +1,6 @@
+import java.util.ArrayList;
+import java.util.List;
+
 /** The description's sentences on errors in a text, and on calls that are refused. */
 final class ErrorBoundaries {
     private static final int HERE = Sentences.DESCRIPTION;
@@ -87,13 +90,44 @@ final class ErrorBoundaries {
         Check.dueLoadError(ONE + "outlet 5 5 5;", 1, ONE.length() + 7);
         Check.dueLoadError(ONE + "outlet a a 5;", 1, ONE.length() + 9);
         Check.dueLoadError(ONE + "area a 0 0 1 ;", 1, ONE.length() + 13);
+        for (String statement : new String[] {"plan 0 0;", "franchisee b 0 0;", "area a 0 0 1 1;", "outlet a 0 0;",
+            "credit 0 0;", "interest 0;", "admin 0;", "fee 0;", "delay 0;", "worth 0;"}) {
+            Check.due("load of " + statement, 4, Check.load(new FranchiseLedger(), ONE + statement));
+            for (String wrong : misspelt(statement.substring(0, statement.indexOf(' ')))) {
+                Check.dueLoadError(ONE + wrong + statement.substring(statement.indexOf(' ')), 1, ONE.length());
+            }
+        }
         FranchiseLedger x = Check.ledger(ONE);
+        for (String entry : new String[] {"sales 0 0;", "deliver 0 0 0 1;", "pay a 1;", "grant a 1;", "campaign 1;",
+            "vote a 0 yes;", "vote a 0 no;", "close ;"}) {
+            Check.due("loadJournal of " + entry, 1, Check.loadJournal(x, entry));
+            for (String wrong : misspelt(entry.substring(0, entry.indexOf(' ')))) {
+                Check.dueJournalError(x, wrong + entry.substring(entry.indexOf(' ')), 1, 0);
+            }
+        }
+        for (String vote : new String[] {"yes", "no"}) {
+            for (String wrong : misspelt(vote)) {
+                Check.dueJournalError(x, "vote a 0 " + wrong + ";", 1, 9);
+            }
+        }
         Check.dueJournalError(x, "fee 5;", 1, 0);
         Check.dueJournalError(x, "pay 5 5;", 1, 4);
         Check.dueJournalError(x, "pay abcdefghijk 5;", 1, 4);
         Check.dueJournalError(x, "pay a 1234567;", 1, 6);
         Check.dueJournalError(x, "sales a 5;", 1, 6);
         Check.dueJournalError(x, "close;7", 1, 6);
+    }
+
+    /** The word with each of its letters changed and left out, and with one more. */
+    private static List<String> misspelt(String word) {
+        List<String> words = new ArrayList<>();
+        for (int i = 0; i < word.length(); i++) {
+            words.add(word.substring(0, i) + "q" + word.substring(i + 1));
+            words.add(word.substring(0, i) + word.substring(i + 1));
+        }
+        words.add(word + "q");
+        words.add("q" + word);
+        return words;
     }
 
     private static void range() {

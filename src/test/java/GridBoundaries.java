@@ -239,10 +239,22 @@ final class GridBoundaries {
         Ledgers.dueRefused("an outlet of ann", Ledgers.BUSY, NOT_ALLOWED,
                 y -> y.cede(Ledgers.ANN, Ledgers.BOB, 4, 0, 6, 4));
         Check.due("cells right of it", 4, Ledgers.BUSY.get().cede(Ledgers.ANN, Ledgers.BOB, 5, 0, 6, 4));
+        cedeAroundAnOutlet();
         FranchiseLedger open = Check.ledger(system);
         open.openOutlet(0, 2, 2);
         Check.due("an opened outlet", NOT_ALLOWED, open.cede(0, 1, 2, 2, 3, 3));
         cedeAClosedOutlet();
+    }
+
+    /** The rectangle has three columns and three rows; the outlet lies in each of its cells and in those around it. */
+    private static void cedeAroundAnOutlet() {
+        for (int x = 9; x < 14; x++) {
+            for (int y = 9; y < 14; y++) {
+                FranchiseLedger ledger = Check.ledger(TWO + "area a 0 0 20 20;outlet a " + x + " " + y + ";");
+                boolean inside = x > 9 && x < 13 && y > 9 && y < 13;
+                Check.due("an outlet in " + x + ", " + y, inside ? NOT_ALLOWED : 9, ledger.cede(0, 1, 10, 10, 13, 13));
+            }
+        }
     }
 
     /** The outlet of a is closed, its cell belongs to none then, and no franchisee can get it. */
@@ -449,6 +461,8 @@ final class GridBoundaries {
         Check.due("all", 15, lineOf("area a 0 0 30 30;"));
         Check.due("x < k", 14, lineOf("area a 13 0 15 1;"));
         Check.due("y < k", 114, lineOf("area a 13 13 14 15;"));
+        Check.due("all columns left of a line count", 7, lineOf("area a 5 5 9 8;"));
+        Check.due("all rows above a line count", 107, lineOf("area a 5 5 8 9;"));
     }
 
     private static int lineOf(String areas) {

@@ -153,6 +153,64 @@ final class Ledgers {
         return text.toString();
     }
 
+    /** Eight franchisees, each with three columns of two rows, and an outlet in the first of their cells. */
+    static String eightText() {
+        StringBuilder text = new StringBuilder("plan 500 1000;plan 400 900 5 2000;");
+        for (int i = 0; i < 8; i++) {
+            String name = String.valueOf((char) ('a' + i));
+            text.append("franchisee ").append(name).append(" 0 ").append(50 + i).append(';');
+            text.append("area ").append(name).append(' ').append(3 * i).append(" 0 ").append(3 * i + 3).append(" 2;");
+            text.append("outlet ").append(name).append(' ').append(3 * i).append(" 0;");
+        }
+        return text.append("credit 1000 50;interest 100;admin 1000;fee 10;delay 3;").toString();
+    }
+
+    /**
+     * One of two courses of the eight. Both fill the same rows, and each fills them in its own way; at their ends there
+     * are done, decided, exercised and open transfers, a terminated franchisee, and deliveries of all into all.
+     */
+    static void runCourse(FranchiseLedger x, int course) {
+        x.openOutlet(course, 3 * course + 1, course - 1);
+        x.cede(course, course + 1, 3 * course + 2, 0, 3 * course + 3, 2);
+        x.setPlan(course, 1);
+        for (int f = 0; f < 8; f++) {
+            x.reportSales(f, 10000L * course * (f + 1));
+        }
+        x.closeMonth();
+        for (int f = 0; f < 8; f++) {
+            x.pay(f, f == 4 + course ? 1 : 1000000 + 10000 * course * f);
+        }
+        x.requestTransfer(2 - course, 30 + course, 100 * course);
+        decide(x, 2 - course, true);
+        x.requestTransfer(2, 35, 100);
+        decide(x, 2, course == 1);
+        for (int months = 0; months < 3 + course; months++) {
+            x.reportSales(months, 5000 * course);
+            x.closeMonth();
+        }
+        x.terminate(4 + course);
+        x.requestTransfer(3, 40 + course, 500 * course);
+        if (course == 1) {
+            x.vote(3, 1, true);
+            x.vote(3, 2, false);
+        } else {
+            x.vote(3, 0, false);
+            x.vote(3, 3, false);
+            x.vote(3, 4, true);
+        }
+        x.requestTransfer(7, 45, 600);
+        if (course == 1) {
+            x.exercise(7);
+        }
+        x.campaign(10 * course);
+        x.grant(0, 5 * course);
+        for (int from = 0; from < 8; from++) {
+            for (int to = 0; to < 8; to++) {
+                x.deliver(from, 3 * to, 1, 10 * course * (from + 1) * (to + 2));
+            }
+        }
+    }
+
     /** All months are closed. */
     private static FranchiseLedger over() {
         FranchiseLedger x = Check.ledger(SYSTEM);

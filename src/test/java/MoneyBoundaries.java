@@ -375,6 +375,7 @@ final class MoneyBoundaries {
         dueShares(spent(1, 20, 35, 35), 0, 1, 0);
         dueShares(spent(1, 0, 1, 1), 0, 1, 0);
         dueShares(spent(7, 0, 0, 7), 0, 0, 7);
+        dueShares(spent(1, 0, 1, 0), 0, 1, 0);
         FranchiseLedger x = spent(5, 1, 2, 3);
         x.grant(2, 1);
         dueShares(x, 1, 2, 2);

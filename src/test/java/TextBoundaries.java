@@ -336,18 +336,28 @@ final class TextBoundaries {
         Check.due("no first snapshot", false, x.restoreSnapshot(0));
         Check.due("no second snapshot", false, x.restoreSnapshot(1));
         Check.due("an old name", NONE, Check.find(x, "ann"));
-        String[] texts = {"", "plan 0 0;", ONE, Ledgers.fullText()};
-        for (String text : texts) {
-            for (int loads = 1; loads <= 3; loads++) {
-                int times = loads;
-                Check.due("everything of " + text, Sights.business(() -> Check.ledger(text)), Sights.business(() -> {
-                    FranchiseLedger y = Ledgers.BUSY.get();
-                    for (int i = 0; i < times; i++) {
-                        Check.load(y, text);
-                    }
-                    return y;
-                }));
+        for (String text : new String[] {"", "plan 0 0;", ONE, Ledgers.fullText(), Ledgers.eightText()}) {
+            for (int course = 1; course <= 2; course++) {
+                dueReplaced(text, course);
             }
+        }
+    }
+
+    /** A load may use again what an earlier one has left behind, so several follow one another. */
+    private static void dueReplaced(String text, int course) {
+        String fresh = Sights.business(() -> Check.ledger(text));
+        for (int loads = 0; loads < 3; loads++) {
+            int between = loads;
+            Check.due("everything of " + text, fresh, Sights.business(() -> {
+                FranchiseLedger x = Ledgers.BUSY.get();
+                Check.load(x, Ledgers.eightText());
+                Ledgers.runCourse(x, course);
+                for (int i = 0; i < between; i++) {
+                    Check.load(x, "");
+                }
+                Check.load(x, text);
+                return x;
+            }));
         }
     }
 }

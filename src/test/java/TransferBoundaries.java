@@ -345,7 +345,33 @@ final class TransferBoundaries {
                 return x;
             }, used));
         }
+        dueSaved(0, 1);
+        dueSaved(1, 0);
         notSaved();
+    }
+
+    /** Two courses from one beginning fill the same rows, so that what is not saved of the first one would show. */
+    private static void dueSaved(int beginning, int end) {
+        Supplier<FranchiseLedger> first = () -> {
+            FranchiseLedger x = Check.ledger(Ledgers.eightText());
+            x.saveSnapshot(beginning);
+            Ledgers.runCourse(x, 1);
+            x.saveSnapshot(end);
+            return x;
+        };
+        FranchiseLedger second = Check.ledger(Ledgers.eightText());
+        Ledgers.runCourse(second, 2);
+        FranchiseLedger again = first.get();
+        again.restoreSnapshot(beginning);
+        Ledgers.runCourse(again, 2);
+        Check.due("the second course", Sights.now(second), Sights.now(again));
+        Check.due("the first course", Sights.business(first), Sights.business(() -> {
+            FranchiseLedger x = first.get();
+            x.restoreSnapshot(beginning);
+            Ledgers.runCourse(x, 2);
+            x.restoreSnapshot(end);
+            return x;
+        }));
     }
 
     private static FranchiseLedger savedAndChanged(int slot) {
